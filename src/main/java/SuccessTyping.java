@@ -139,7 +139,6 @@ public final class SuccessTyping {
         slotStarts[f] = nodesUsed;
         slotSizes[f] = 0;
         buildingSlot = f;
-        pendingCount = 0;
         return true;
     }
 

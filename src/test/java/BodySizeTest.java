@@ -32,7 +32,18 @@ public final class BodySizeTest {
         for (int f : new int[] {Integer.MIN_VALUE, -1, 4, 7, 8, Integer.MAX_VALUE}) {
             sizes(s, f, -1, -1);
         }
+        fullFace();
         CHECK.finish();
+    }
+
+    /** With all eight slots, the first one outside lies past every array of slots. */
+    private static void fullFace() {
+        SuccessTyping s = new SuccessTyping(8, 128);
+        sizes(s, 7, -1, -1);
+        sizes(s, 8, -1, -1);
+        Bodies.define(CHECK, s, 7, 2, "v0");
+        sizes(s, 7, 1, 2);
+        sizes(s, 8, -1, -1);
     }
 
     private static void sizes(SuccessTyping s, int f, int size, int arity) {

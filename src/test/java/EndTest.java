@@ -10,6 +10,7 @@ public final class EndTest {
         discards("v0 i1 + i2 i3");
         freesRoom();
         keepsOtherBodiesOnDiscard();
+        forgetsDiscardedBody();
         CHECK.finish();
     }
 
@@ -81,5 +82,22 @@ public final class EndTest {
         Bodies.define(CHECK, s, 1, 1, "v0 c2/1 i3 +");
         CHECK.run(s, 2, 10, 0, SuccessTyping.RUN_OK, 12);
         CHECK.run(s, 1, 10, 0, SuccessTyping.RUN_OK, 15);
+    }
+
+    /** The new body lies where the condition and the first branch of an IF lay before. */
+    private static void forgetsDiscardedBody() {
+        SuccessTyping s = new SuccessTyping(2, 16);
+        s.begin(0, 1);
+        Bodies.nodes(CHECK, s, "v0 i1 i2 if i5");
+        CHECK.due("end()", s.end(), SuccessTyping.END_DISCARDED);
+        Bodies.define(CHECK, s, 0, 1, "v0");
+        Bodies.define(CHECK, s, 1, 1, "v0");
+        s.analyze();
+        for (int f = 0; f < 2; f++) {
+            CHECK.run(s, f, 5, 0, SuccessTyping.RUN_OK, 5);
+            CHECK.run(s, f, 1000, 0, SuccessTyping.RUN_OK, 1000);
+            CHECK.any(s, f, 0);
+            CHECK.any(s, f, 2);
+        }
     }
 }

@@ -179,6 +179,12 @@ public final class InferenceTest {
         CHECK.any(s, 0, 0);
         CHECK.type(s, 0, 1, 3, -99, 99);
         CHECK.type(s, 0, 2, 12, -99, 99);
+        s = Bodies.inferred(CHECK, 2, "v0 int? v0 a0 + v1 i1 + if");
+        CHECK.mask(s, 0, 0, 255);
+        CHECK.ints(s, 0, 1);
+        s = Bodies.inferred(CHECK, 2, "v1 int? v0 i1 + v1 i1 + if");
+        CHECK.ints(s, 0, 0);
+        CHECK.ints(s, 0, 1);
         s = Bodies.inferred(CHECK, 2, "v1 int? v1 v0 if");
         CHECK.any(s, 0, 0);
         CHECK.any(s, 0, 1);
@@ -206,6 +212,7 @@ public final class InferenceTest {
 
     private static void staleTypes() {
         givesNothing(1, "v0 v0 i1 i2 if +");
+        givesNothing(2, "v1 v1 i1 i2 if +");
         givesNothing(1, "v0 i1 i2 if v0 +");
         givesMask(1, "v0 v0 i1 + i1 = =", 3);
         givesMask(1, "v0 int? v0 i1 + int? =", 3);
@@ -229,6 +236,20 @@ public final class InferenceTest {
         CHECK.empty(s, 1, 2);
         CHECK.empty(s, 2, 0);
         CHECK.empty(s, 3, 0);
+        callsOfWrongArity();
+    }
+
+    private static void callsOfWrongArity() {
+        for (int arity = 0; arity <= 2; arity++) {
+            for (int given = 0; given <= 2; given++) {
+                SuccessTyping s = new SuccessTyping(2, 32);
+                Bodies.define(CHECK, s, 0, arity, "i3");
+                String[] bodies = {"c0/0", "i1 c0/1", "i1 i2 c0/2"};
+                Bodies.define(CHECK, s, 1, 0, bodies[given]);
+                CHECK.due("analyze()", s.analyze(), arity == given ? 0 : 1);
+                CHECK.due("intLo(1, 2)", s.intLo(1, 2), arity == given ? 3 : SuccessTyping.NO_INT);
+            }
+        }
     }
 
     private static void callsNarrow() {

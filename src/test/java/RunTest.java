@@ -22,6 +22,7 @@ public final class RunTest {
         firstEndingEvent();
         looksAtSlotsAsTheyAreNow();
         changesNothingElse();
+        fullPool();
         CHECK.finish();
     }
 
@@ -268,10 +269,32 @@ public final class RunTest {
         String before = Snapshot.of(s);
         CHECK.due("run(0, 20, 0)", s.run(0, 20, 0), LIMIT);
         CHECK.due("run(0, 1000, 0)", s.run(0, 1000, 0), FAIL);
-        CHECK.due("run(0, 1000, 0)", s.run(5, 1000, 0), REFUSED);
+        CHECK.due("run(5, 1000, 0)", s.run(5, 1000, 0), REFUSED);
         CHECK.due("the object after run()", Snapshot.of(s), before);
         CHECK.run(s, 0, 3, 0, OK, 7);
         CHECK.run(s, 0, 500, 0, REFUSED, 7);
         CHECK.run(s, 0, 20, 0, LIMIT, 0);
+    }
+
+    private static void fullPool() {
+        SuccessTyping s = new SuccessTyping(8, 128);
+        s.begin(7, 1);
+        Bodies.nodes(CHECK, s, "v0");
+        for (int i = 1; i < 64; i++) {
+            Bodies.nodes(CHECK, s, "i1");
+            // As many sums as i has trailing ones keep the tree balanced.
+            for (int bits = i; bits % 2 == 1; bits /= 2) {
+                Bodies.nodes(CHECK, s, "+");
+            }
+        }
+        Bodies.nodes(CHECK, s, "int?");
+        CHECK.due("bodySize(7)", s.bodySize(7), 128);
+        CHECK.due("node(0, 1, 0)", s.node(0, 1, 0), false);
+        CHECK.due("end()", s.end(), 7);
+        CHECK.run(s, 7, 36, 0, OK, 1001);
+        CHECK.run(s, 7, 37, 0, FAIL, 0);
+        CHECK.due("analyze()", s.analyze(), 0);
+        CHECK.ints(s, 7, 0);
+        CHECK.mask(s, 7, 2, 2);
     }
 }
