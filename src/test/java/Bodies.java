@@ -57,6 +57,20 @@ final class Bodies {
         check.due("end() of '" + body + "'", s.end(), f);
     }
 
+    /** A body of the depth that is asked for, in which every node has one child at most. */
+    static String chain(int depth) {
+        return "i1" + " int?".repeat(depth - 1);
+    }
+
+    /** Stores as many nodes without children as the pool takes, and answers how many. */
+    static int fill(SuccessTyping s) {
+        int count = 0;
+        while (count < 1000 && s.node(SuccessTyping.KIND_INT, 1, 0)) {
+            count++;
+        }
+        return count;
+    }
+
     /** A new object of eight slots and the largest pool, with one body in slot 0, analyzed. */
     static SuccessTyping inferred(Check check, int arity, String body) {
         SuccessTyping s = new SuccessTyping(8, 128);

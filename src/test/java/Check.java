@@ -1,7 +1,28 @@
 /** Counts the answers that are not as due, and ends a test with exit code 1 if there was one. */
 final class Check {
+    private int sentences;
     private int asked;
     private int wrong;
+
+    /** Runs the test of one sentence of the document, whose words are told if an answer is wrong. */
+    void sentence(String words, Runnable test) {
+        sentences++;
+        int askedBefore = asked;
+        int wrongBefore = wrong;
+        try {
+            test.run();
+        } catch (RuntimeException thrown) {
+            wrong++;
+            System.out.println("a call threw " + thrown + " at " + thrown.getStackTrace()[0]);
+        }
+        if (asked == askedBefore) {
+            wrong++;
+            System.out.println("nothing was asked");
+        }
+        if (wrong != wrongBefore) {
+            System.out.println("  -- under: " + words);
+        }
+    }
 
     void due(String call, long got, long want) {
         asked++;
@@ -38,6 +59,12 @@ final class Check {
         type(s, f, which, 0, SuccessTyping.NO_INT, SuccessTyping.NO_INT);
     }
 
+    void allEmpty(SuccessTyping s, int f) {
+        empty(s, f, SuccessTyping.WHICH_P0);
+        empty(s, f, SuccessTyping.WHICH_P1);
+        empty(s, f, SuccessTyping.WHICH_RESULT);
+    }
+
     void any(SuccessTyping s, int f, int which) {
         type(s, f, which, 255, -99, 99);
     }
@@ -65,7 +92,8 @@ final class Check {
     }
 
     void finish() {
-        System.out.println(asked + " answers, " + wrong + " not as due");
+        String under = sentences == 0 ? "" : " under " + sentences + " sentences";
+        System.out.println(asked + " answers" + under + ", " + wrong + " not as due");
         if (wrong != 0 || asked == 0) {
             System.exit(1);
         }
