@@ -29,8 +29,9 @@ public final class AnalyzeTest {
         CHECK.sentence("no END_DISCARDED or END_NOT_BUILDING changes it.", AnalyzeTest::endKeepsIt);
         CHECK.sentence("no run changes it.", AnalyzeTest::runKeepsIt);
         CHECK.sentence("(no question changes it)", AnalyzeTest::questionsKeepIt);
-        CHECK.sentence("suppose run(f, x, y) answers RUN_OK: member is true for the arguments and"
-            + " the result", AnalyzeTest::typesCoverRuns);
+        CHECK.sentence("if arity(f) >= 1, member(f, 0, x) is true", () -> coverRuns(0));
+        CHECK.sentence("if arity(f) = 2, member(f, 1, y) is true", () -> coverRuns(1));
+        CHECK.sentence("member(f, 2, result()) is true", () -> coverRuns(2));
         CHECK.sentence("a run whose argument is outside the inferred domain never answers RUN_OK.",
             AnalyzeTest::outsideNeverSucceeds);
         CHECK.sentence("Nor does a run of a flagged slot answer RUN_OK.",
@@ -256,7 +257,7 @@ public final class AnalyzeTest {
         keepsIt("all questions", Snapshot::of);
     }
 
-    /** Slots 0 to 3 give values for some arguments, 4 to 6 for none. */
+    /** Slots 0 to 3 give values for some arguments, 4 to 6 for none; slot 7 is BUILDING. */
     private static SuccessTyping someFunctions() {
         SuccessTyping s = new SuccessTyping(8, 128);
         Bodies.define(CHECK, s, 0, 1, "v0 int? v0 i1 < i0 v0 v0 i1 - c0/1 + if v0 a3 a4 if if");
@@ -267,17 +268,20 @@ public final class AnalyzeTest {
         Bodies.define(CHECK, s, 5, 2, "v0 c7/1 v1 v0 if");
         Bodies.define(CHECK, s, 6, 0, "a1 c3/1");
         CHECK.due("analyze()", s.analyze(), 3);
+        s.begin(7, 1);
+        Bodies.nodes(CHECK, s, "v0 a1 =");
+        CHECK.due("analyzed()", s.analyzed(), true);
         return s;
     }
 
-    private static void typesCoverRuns() {
+    private static void coverRuns(int which) {
         SuccessTyping s = someFunctions();
         int succeeded = 0;
         for (int f = 0; f < 7; f++) {
             for (int x : CODES) {
                 for (int y : CODES) {
                     if (s.run(f, x, y) == SuccessTyping.RUN_OK) {
-                        covered(s, f, x, y);
+                        covered(s, f, which, which == 0 ? x : which == 1 ? y : s.result());
                         succeeded++;
                     }
                 }
@@ -286,11 +290,11 @@ public final class AnalyzeTest {
         CHECK.due("many runs that succeed", succeeded > 10000, true);
     }
 
-    private static void covered(SuccessTyping s, int f, int x, int y) {
-        String call = " after run(" + f + ", " + x + ", " + y + ")";
-        CHECK.due("member(f, 0, x)" + call, s.arity(f) < 1 || s.member(f, 0, x), true);
-        CHECK.due("member(f, 1, y)" + call, s.arity(f) < 2 || s.member(f, 1, y), true);
-        CHECK.due("member(f, 2, result())" + call, s.member(f, 2, s.result()), true);
+    private static void covered(SuccessTyping s, int f, int which, int v) {
+        if (which == SuccessTyping.WHICH_RESULT || which < s.arity(f)) {
+            String call = "member(" + f + ", " + which + ", " + v + ")";
+            CHECK.due(call + " after RUN_OK", s.member(f, which, v), true);
+        }
     }
 
     private static void outsideNeverSucceeds() {

@@ -249,5 +249,24 @@ public final class CallInferenceTest {
         for (int f = 0; f < 8; f++) {
             CHECK.range(s, f, 2, -8, 99);
         }
+        longestChain();
+    }
+
+    /** The integers grow from -8 to 8 first, and from there on atom after atom. */
+    private static void longestChain() {
+        String atoms = "c0/0 i8 = a0";
+        for (int a = 0; a < 6; a++) {
+            atoms += " c0/0 a" + a + " = a" + (a + 1);
+        }
+        String body = "a1 a1 = a1 a1 = i-8 c0/0 i1 + if " + atoms + " i-8" + " if".repeat(8);
+        SuccessTyping s = new SuccessTyping(8, 128);
+        for (int f = 0; f < 7; f++) {
+            Bodies.define(CHECK, s, f, 0, "c" + (f + 1) + "/0");
+        }
+        Bodies.define(CHECK, s, 7, 0, body);
+        CHECK.due("analyze()", s.analyze(), 0);
+        for (int f = 0; f < 8; f++) {
+            CHECK.type(s, f, 2, 127, -8, 99);
+        }
     }
 }
