@@ -143,7 +143,7 @@ public final class SuccessTyping {
     }
 
     public boolean node(int kind, int a, int b) {
-        if (buildingSlot == NONE || !operandsFit(kind, a, b)) {
+        if (buildingSlot == NONE || !isKind(kind) || !operandsFit(kind, a, b)) {
             return false;
         }
         int childCount = childrenOf(kind, b);
@@ -320,6 +320,10 @@ public final class SuccessTyping {
 
     // ---- building a body ----
 
+    private static boolean isKind(int kind) {
+        return kind >= KIND_INT && kind <= KIND_CALL;
+    }
+
     private boolean operandsFit(int kind, int a, int b) {
         switch (kind) {
             case KIND_INT:
@@ -331,7 +335,7 @@ public final class SuccessTyping {
             case KIND_CALL:
                 return isSlot(a) && b >= 0 && b <= MAX_ARITY;
             default:
-                return kind >= KIND_ADD && kind <= KIND_IF;
+                return true;
         }
     }
 
